@@ -4,6 +4,7 @@ public final class FaultTest {
 
     public static void main(String[] args) {
         fetch();
+        fetchAtZero();
         leastNumber();
         protection();
         closedWords();
@@ -17,6 +18,7 @@ public final class FaultTest {
         policy();
         restartDoesNotCount();
         restartFromAnyState();
+        restartForgets();
         stopKeeps();
         wrongNumbers();
         Checks.close("FaultTest");
@@ -31,6 +33,12 @@ public final class FaultTest {
         // The header belongs to the code: 0, the halfword of POLICY, shifts nothing.
         x = new Board("header as code", Asm.process(0, 8, 0, Asm.mov(0, 1), Asm.branch(-4)));
         x.run(2).pc(0, 10).run(3).faults(0, 0, 0).pc(0, 10);
+    }
+
+    /** PC may come to address 0: the halfword there is 21570, which is no instruction. */
+    private static void fetchAtZero() {
+        Board x = new Board("address 0", Asm.process(0, 8, 1, Asm.branch(-8), Asm.rest()));
+        x.run(1).pc(0, 0).run(1).faults(0, 2, 1).burn(0, Asm.mov(6, 66), Asm.MAGIC).run(2).register(0, 6, 66);
     }
 
     private static void leastNumber() {
@@ -108,6 +116,9 @@ public final class FaultTest {
     }
 
     private static void frameShifted() {
+        // Word 4 of a frame becomes 0, whatever was there.
+        new Board("word 4", Asm.process(0, 12, 0, Asm.mov(5, 55), Asm.spDown(8), Asm.strSp(5, 4), Asm.spUp(8),
+            Asm.call(4), Asm.rest())).run(3).word(8, 55).run(2).word(8, 0);
         int[] code = {Asm.sub(0, 1), Asm.call(4), Asm.rest()};
         Board x = new Board("shifted", Asm.process(0, 13, 0, code));
         x.run(1).sp(0, 4148).run(1).sp(0, 4112).flags(0, 8).pc(0, 16);
@@ -163,7 +174,11 @@ public final class FaultTest {
         code[2] = Asm.sub(1, 4);
         x = new Board("input into flags", Asm.process(1, 16, 0, code));
         x.run(10).flags(0, 6).type(0x51000200, true).flags(0, 5).state(0, 1);
-        code[9] = Asm.branch(-2);
+        code[9] = Asm.rest();
+        x = new Board("input into flags of one that is ready", Asm.process(1, 16, 0, code));
+        x.run(10).flags(0, 6).type(0x91000200, true).flags(0, 9).sp(0, 4128).run(1).flags(0, 9).sp(0, 4128 + 36);
+        code[9] = Asm.YIELD;
+        code[9] = Asm.rest();
         code[2] = Asm.sub(1, 8);
         x = new Board("odd PC in a frame", Asm.process(1, 16, 0, code));
         x.run(10).type(15, true).pc(0, 15).run(1).pc(0, 16).register(0, 1, 4096 + 64).faults(0, 0, 0);
@@ -204,6 +219,45 @@ public final class FaultTest {
         x.state(0, 1).sample(6, 1).state(0, 0).registers(0, 6, 1, 2, 5);
     }
 
+    /** What a process said to the drivers before is gone behind a restart, a fault and a stop. */
+    private static void restartForgets() {
+        for (int way = 0; way < 3; way++) {
+            for (int driver = 0; driver < 3; driver++) {
+                int[] code = Asm.join(new int[] {Asm.mov(0, driver), Asm.addrSp(1, 0), Asm.mov(2, 1), Asm.ALLOW},
+                    Asm.ask(Asm.SUBSCRIBE, driver, 12, 5), Asm.ask(Asm.COMMAND, driver, driver == 1 ? 2 : 1, 1),
+                    new int[] {way == 1 ? 0xFFFF : Asm.rest()});
+                Board x = new Board("forget " + way + driver, Asm.process(1, 16, 1, code));
+                x.run(12).grant(0, driver, 4216).open(0, 28);
+                if (way == 0) {
+                    x.restart(0, true);
+                } else if (way == 1) {
+                    x.run(1).faults(0, 2, 1);
+                } else {
+                    x.stop(0, true).grant(0, driver, -1).restart(0, true);
+                }
+                for (int k = 0; k < 3; k++) {
+                    x.grant(0, k, -1);
+                }
+                x.open(0, 32).queued(0, 0).sample(1, 0);
+            }
+        }
+        forgetsFunctionAndBuffer();
+        int[] flags = {Asm.mov(7, 17), Asm.blx(7), Asm.sub(0, 1), Asm.rest()};
+        Board x = new Board("LR and flags", Asm.process(0, 8, 0, flags));
+        x.run(3).lr(0, 17).flags(0, 8).restart(0, true).lr(0, 0).flags(0, 0);
+    }
+
+    private static void forgetsFunctionAndBuffer() {
+        int[] code = Asm.join(new int[] {Asm.mov(0, 1), Asm.addrSp(1, 0), Asm.mov(2, 1), Asm.ALLOW},
+            Asm.ask(Asm.SUBSCRIBE, 1, 12, 5), new int[] {Asm.rest()});
+        int[] late = Asm.join(code, Asm.ask(Asm.COMMAND, 1, 2, 0), new int[] {Asm.YIELD, Asm.rest()});
+        Board x = new Board("function and buffer", Asm.process(1, 16, 0, late));
+        x.run(8).grant(0, 1, 4216).restart(0, true);
+        // From now on it begins with a branch to the COMMAND.
+        x.burn(6, Asm.branch(7), Asm.mov(0, 1)).run(6).state(0, 1).word(30, 1);
+        x.type(44, true).word(30, 0).word(16, 0).state(0, 1).queued(0, 0);
+    }
+
     private static void stopKeeps() {
         int[] code = Asm.join(new int[] {Asm.mov(3, 8), Asm.strSp(3, 0)}, Asm.ask(Asm.SUBSCRIBE, 2, 12, 5),
             Asm.ask(Asm.COMMAND, 2, 1, 0), new int[] {Asm.rest()});
@@ -223,6 +277,8 @@ public final class FaultTest {
             x.register(0, p + 100, 0);
         }
         x.register(0, -1, 0).register(0, 12, 0).register(0, 8, 4128).state(0, 0);
+        Board y = new Board("flags", Asm.process(0, 8, 0, Asm.sub(0, 1), Asm.rest())).run(1).flags(0, 8);
+        y.register(0, 12, 0).register(0, 13, 0).register(0, -1, 0);
         x.word(-1, 0).word(128, 0).word(Integer.MIN_VALUE, 0).word(Integer.MAX_VALUE, 0);
     }
 }

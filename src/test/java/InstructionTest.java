@@ -209,6 +209,9 @@ public final class InstructionTest {
         r0("rotate 0", Asm.alu(7, 0, 1), of(1, 0), 2, 1, 2);
         r0("rotate 1", Asm.alu(7, 0, 1), of(1, 1), 0, MIN, 10);
         r0("rotate 4", Asm.alu(7, 0, 1), of(0x1F, 4), 0, 0xF0000001, 10);
+        r0("rotate 4", Asm.alu(7, 0, 1), of(MIN + 16, 4), 2, 0x08000001, 0);
+        r0("rotate 31", Asm.alu(7, 0, 1), of(MIN + 1, 31), 2, 3, 0);
+        r0("rotate 1", Asm.alu(7, 0, 1), of(0, 1), 2, 0, 4);
         r0("rotate 32", Asm.alu(7, 0, 1), of(MIN, 32), 0, MIN, 10);
         r0("rotate 32", Asm.alu(7, 0, 1), of(1, 32), 2, 1, 0);
         r0("rotate 33", Asm.alu(7, 0, 1), of(2, 33), 2, 1, 0);
@@ -287,6 +290,7 @@ public final class InstructionTest {
         before("str 31", 0, r, Asm.str(6, 2, 31)).run(1).word(32, 0x12345678);
         before("str and ldr", 0, r, Asm.str(6, 5, 31), Asm.ldr(4, 0, 0)).run(2).word(0, 0x12345678)
             .register(0, 4, 0x12345678).flags(0, 0);
+        before("ldr 1", 0, r, Asm.str(6, 2, 0), Asm.ldr(4, 0, 1)).run(2).register(0, 4, 0x12345678);
         before("str sp", 7, r, Asm.strSp(6, 1), Asm.ldrSp(0, 1)).run(2).word(33, 0x12345678)
             .register(0, 0, 0x12345678).flags(0, 7);
         before("address sp", 7, r, Asm.addrSp(2, 255), Asm.addrSp(3, 0)).run(2).register(0, 2, SP + 1020)
@@ -321,8 +325,23 @@ public final class InstructionTest {
         x = before("push none", 0, r, Asm.push(0), Asm.pop(0)).run(2).sp(0, SP).pc(0, AT + 4);
         x = before("pop some", 9, r, Asm.push(15), Asm.pop(0xF0)).run(2);
         x.registers(0, 10, 11, 12, 13, 10, 11, 12, 13).sp(0, SP).flags(0, 9).pc(0, AT + 4);
+        x = before("push without LR", 0, r, Asm.blx(7), Asm.rest(), Asm.push(1 << 2 | 1 << 5)).run(2);
+        x.lr(0, AT + 3).words(29, 0, 12, 15, 0).sp(0, SP - 8);
+        x = before("push LR alone", 0, r, Asm.blx(7), Asm.rest(), Asm.push(256)).run(2);
+        x.words(31, AT + 3, 0).sp(0, SP - 4);
         x = before("pop pc", 0, r, Asm.push(1 << 6 | 1 << 7), Asm.pop(1 | 256)).run(2);
         x.register(0, 0, 16).sp(0, SP).pc(0, AT + 4);
+        x = before("pop pc alone", 0, r, Asm.push(2), Asm.pop(256)).run(2).sp(0, SP).pc(0, 10);
+        x = before("pop all", 0, r, Asm.push(255), Asm.mov(0, 0), Asm.mov(6, 0), Asm.pop(255)).run(4);
+        x.registers(0, 10, 11, 12, 13, 14, 15, 16, AT + 5).sp(0, SP);
+        x = before("pop to the end", 0, r, Asm.strSp(7, 31), Asm.spUp(24), Asm.pop(255)).run(3);
+        x.faults(0, 0, 0).registers(0, 0, 0, 0, 0, 0, 0, 0, AT + 5).sp(0, SP + 128);
+        x = before("pop behind the end", 0, r, Asm.spUp(25), Asm.pop(255)).run(2);
+        x.faults(0, 4, 1).registers(0, 10, 11, 12, 13, 14, 15, 16, AT + 5).sp(0, SP + 100);
+        x = before("push one outside", 0, r, Asm.spDown(32), Asm.push(1)).run(2).faults(0, 4, 1);
+        x.sp(0, BLOCK);
+        x = before("pop one outside", 0, r, Asm.spUp(32), Asm.pop(1)).run(2).faults(0, 4, 1);
+        x.sp(0, SP + 128);
         x = before("pop pc even", 0, r, Asm.push(5), Asm.pop(4 | 256)).run(2);
         x.faults(0, 5, 1).register(0, 2, 12).sp(0, SP - 8).pc(0, AT + 2);
         x = before("pop pc outside", 0, r, Asm.spUp(31), Asm.pop(4 | 256)).run(2);

@@ -14,6 +14,7 @@ public final class LoadingTest {
         atMostFour();
         howAProcessStarts();
         bootForgets();
+        bootForgetsThoseThatAreGone();
         openWords();
         Checks.close("LoadingTest");
     }
@@ -78,6 +79,10 @@ public final class LoadingTest {
         Board x = new Board("header " + k + " = " + h);
         x.burnAll(first, second);
         x.boot(want);
+        if (want == 1 && k > 1) {
+            // The second one alone was loaded.
+            x.block(0, 4096).pc(0, 28).open(0, 16);
+        }
     }
 
     private static void headersThatEndLoading() {
@@ -137,6 +142,16 @@ public final class LoadingTest {
         // Only four halfwords are left behind the first header.
         x.burn(0, 21570, 21570).burn(1, 252, 248).burn(252, 21570, 6).boot(0);
         x.burn(1, 250, 252).burn(250, 21570, 0).burn(251, 8, 8).boot(0);
+        theLastWordOfTheFlash();
+    }
+
+    private static void theLastWordOfTheFlash() {
+        int[] filler = new int[244];
+        System.arraycopy(Asm.process(0, 7, 0), 0, filler, 0, 6);
+        filler[1] = 244;
+        int[] code = {Asm.mov(0, 254), Asm.add(0, 254), Asm.ldr(1, 0, 0), Asm.rest(), 0x1234, 0x5678};
+        Board x = new Board("last word", filler, Asm.process(0, 8, 0, code));
+        x.pc(0, 500).run(3).register(0, 1, 0x56781234).faults(0, 0, 0);
     }
 
     private static void blocks() {
@@ -198,6 +213,23 @@ public final class LoadingTest {
         // The restarts that POLICY allows are counted anew.
         x.run(14).faults(0, 2, 1).state(0, 0);
         x.burn(0, 0, 21570).boot(0).state(0, -1).run(3, 0).now(3).turn(-1);
+    }
+
+    private static void bootForgetsThoseThatAreGone() {
+        int[] code = Asm.join(new int[] {Asm.mov(7, 9), Asm.strSp(7, 0)}, Asm.ask(Asm.COMMAND, 1, 2, 0),
+            Asm.ask(Asm.COMMAND, 2, 1, 0), new int[] {Asm.rest()});
+        int[] asker = Asm.process(0, 9, 0, code);
+        Board x = new Board("gone", asker, asker);
+        x.run(20).words(9, 9).words(25, 9).words(30, 1, 0).words(28, 1, 0);
+        x.burn(asker.length, 0, 21570).boot(1).word(25, 0).word(30, 0).word(28, 0).state(1, -1).grant(1, 1, -1);
+        x.sample(4, 0).word(28, 0).burn(0, 0, 21570).boot(0).sample(4, 0);
+        for (int k = 0; k < 8; k++) {
+            x.type(k, true);
+        }
+        x.type(8, false);
+        for (int k = 0; k < 128; k++) {
+            x.word(k, 0);
+        }
     }
 
     private static void openWords() {
