@@ -72,7 +72,7 @@ public final class GrantKernel {
         kernel.now = 0;
         turn = NOBODY;
         left = 0;
-        processCount = loader.load();
+        processCount = loader.loadAll();
         return processCount;
     }
 
@@ -294,7 +294,7 @@ public final class GrantKernel {
             seconds = new int[MOST_UPCALLS];
         }
 
-        void add(int driver, int first, int second) {
+        void enqueue(int driver, int first, int second) {
             if (count < MOST_UPCALLS) {
                 drivers[count] = driver;
                 firsts[count] = first;
@@ -481,7 +481,7 @@ public final class GrantKernel {
             return isInCode(address) || areOpen(address, 1);
         }
 
-        int load(int address) {
+        int readWord(int address) {
             return isInCode(address) ? memory.flashWord(address) : memory.ramWord(address);
         }
 
@@ -568,7 +568,7 @@ public final class GrantKernel {
             processes = places;
         }
 
-        int load() {
+        int loadAll() {
             for (int p = 0; p < MOST_PROCESSES; p++) {
                 processes[p].halt();
                 processes[p].forgetFaults();
@@ -913,7 +913,7 @@ public final class GrantKernel {
                 return;
             }
             if (process.state != WAITS) {
-                notes.upcalls.add(driver, first, second);
+                notes.upcalls.enqueue(driver, first, second);
                 return;
             }
             int frame = process.sp;
@@ -979,15 +979,15 @@ public final class GrantKernel {
                 case 8:
                     return h >> 10 == 16 ? combine(process, h) : jump(process, h);
                 case 9:
-                    return load(process, t, (process.pc + 4 & -4) + offset);
+                    return loadInto(process, t, (process.pc + 4 & -4) + offset);
                 case 12:
-                    return store(process, h & 7, process.low[h >> 3 & 7] + 4 * (h >> 6 & 31));
+                    return storeFrom(process, h & 7, process.low[h >> 3 & 7] + 4 * (h >> 6 & 31));
                 case 13:
-                    return load(process, h & 7, process.low[h >> 3 & 7] + 4 * (h >> 6 & 31));
+                    return loadInto(process, h & 7, process.low[h >> 3 & 7] + 4 * (h >> 6 & 31));
                 case 18:
-                    return store(process, t, process.sp + offset);
+                    return storeFrom(process, t, process.sp + offset);
                 case 19:
-                    return load(process, t, process.sp + offset);
+                    return loadInto(process, t, process.sp + offset);
                 case 21:
                     process.low[t] = process.sp + offset;
                     return DONE;
@@ -1123,18 +1123,18 @@ public final class GrantKernel {
             return DONE;
         }
 
-        private int load(BoardProcess process, int register, int address) {
+        private int loadInto(BoardProcess process, int register, int address) {
             if ((address & 3) != 0) {
                 return FAULT_ALIGNMENT;
             }
             if (!process.mayLoad(address)) {
                 return FAULT_ACCESS;
             }
-            process.low[register] = process.load(address);
+            process.low[register] = process.readWord(address);
             return DONE;
         }
 
-        private int store(BoardProcess process, int register, int address) {
+        private int storeFrom(BoardProcess process, int register, int address) {
             if ((address & 3) != 0) {
                 return FAULT_ALIGNMENT;
             }
@@ -1186,7 +1186,7 @@ public final class GrantKernel {
             }
             int end = process.sp + 4 * words;
             if ((h & NAMES_EXTRA) != 0) {
-                int target = process.load(end - 4);
+                int target = process.readWord(end - 4);
                 if ((target & 1) == 0) {
                     return FAULT_EVEN;
                 }
@@ -1195,7 +1195,7 @@ public final class GrantKernel {
             int address = process.sp;
             for (int k = 0; k < 8; k++) {
                 if ((h >> k & 1) == 1) {
-                    process.low[k] = process.load(address);
+                    process.low[k] = process.readWord(address);
                     address += 4;
                 }
             }

@@ -256,6 +256,10 @@ public final class FaultTest {
         // From now on it begins with a branch to the COMMAND.
         x.burn(6, Asm.branch(7), Asm.mov(0, 1)).run(6).state(0, 1).word(30, 1);
         x.type(44, true).word(30, 0).word(16, 0).state(0, 1).queued(0, 0);
+        late[10] = Asm.mov(1, 1);
+        late[11] = Asm.mov(2, 1);
+        x = new Board("buffer put out", Asm.process(1, 16, 0, late));
+        x.run(8).restart(0, true).burn(6, Asm.branch(7), Asm.mov(0, 1)).run(5).register(0, 0, 0).outputs(0).word(31, 0);
     }
 
     private static void stopKeeps() {

@@ -230,6 +230,12 @@ public final class LoadingTest {
         for (int k = 0; k < 128; k++) {
             x.word(k, 0);
         }
+        // Where the grants of the second one were, a large first one has words of its own.
+        x.burnAll(asker, asker);
+        x.boot(2).run(20).grant(1, 2, 4208).grant(1, 1, 4216);
+        int[] fill = {Asm.mov(7, 1), Asm.addrSp(6, 0), Asm.str(7, 6, 4), Asm.str(7, 6, 6), Asm.rest(), 0};
+        x.burnAll(Asm.process(2, 24, 0, fill), new int[] {0});
+        x.boot(1).run(4).words(28, 1, 0, 1, 0).sample(4, 0).type(5, true).words(28, 1, 0, 1, 0);
     }
 
     private static void openWords() {
