@@ -149,9 +149,8 @@ public final class CallTest {
         Board x = new Board("zero", Asm.process(1, 16, 0, code));
         x.run(4).words(29, 9, 9, 9).run(4).words(29, 9, 0, 0);
         code = Asm.join(new int[] {Asm.mov(7, 9), Asm.strSp(7, 1), Asm.strSp(7, 0)}, Asm.ask(Asm.COMMAND, 0, 0, 0));
-        x = new Board("no grant, no zero", Asm.process(0, 14, 0, Asm.join(code, Asm.ask(Asm.COMMAND, 1, 0, 0))));
-        x.run(7).words(14, 0, 0).restart(0, true).stop(0, true);
-        x = new Board("kept", Asm.process(1, 30, 0, code));
+        new Board("zero in a small block", Asm.process(0, 14, 0, code)).run(3).words(14, 9, 9).run(4).words(14, 0, 0);
+        x = new Board("no grant, no zero", Asm.process(1, 30, 0, code));
         x.run(7).register(0, 0, -4).words(30, 9, 9);
     }
 
