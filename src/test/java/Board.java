@@ -1,22 +1,36 @@
 /** A GrantKernel with processes burnt and booted, whose calls are checked one by one. */
 final class Board {
+    /** The document promises nothing about later calls, so a test that makes more is wrong itself. */
+    static final int MOST_CALLS = 512;
+
     final GrantKernel kernel = new GrantKernel();
     private final String name;
+    private int calls;
 
     Board(String name, int[]... processes) {
         this.name = name;
         burnAll(processes);
+        count();
         kernel.boot();
     }
 
     void burnAll(int[]... processes) {
         int[] image = Asm.join(processes);
         for (int k = 0; k < image.length; k++) {
+            count();
             kernel.burn(k, image[k]);
         }
     }
 
+    private void count() {
+        calls++;
+        if (calls > MOST_CALLS) {
+            Checks.due(name + ": calls of one object", calls, MOST_CALLS);
+        }
+    }
+
     private void due(String call, long got, long want) {
+        count();
         Checks.due(name + ": " + call, got, want);
     }
 

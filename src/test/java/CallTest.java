@@ -2,13 +2,11 @@
 public final class CallTest {
     private static final int MIN = Integer.MIN_VALUE;
     private static final int MAX = Integer.MAX_VALUE;
-    private static final int YIELD = 0;
-    private static final int SUBSCRIBE = 1;
-    private static final int COMMAND = 2;
-    private static final int ALLOW = 3;
-    private static final int ALARM = 0;
-    private static final int CONSOLE = 1;
-    private static final int SENSOR = 2;
+    private static final int YIELD = Calls.YIELD;
+    private static final int SUBSCRIBE = Calls.SUBSCRIBE;
+    private static final int COMMAND = Calls.COMMAND;
+    private static final int ALLOW = Calls.ALLOW;
+    private static final int ALARM = Calls.ALARM;
     /** A function that no test enters. */
     private static final int SOMEWHERE = 12;
 
@@ -45,35 +43,19 @@ public final class CallTest {
     }
 
     private static int[] ask(int call, int r0, int r1, int r2) {
-        return new int[] {call, r0, r1, r2};
+        return Calls.ask(call, r0, r1, r2);
     }
 
-    /** Code that makes the calls one behind the other, four steps each, and then rests. */
     private static int[] calls(int[]... asks) {
-        int pool = 4 * asks.length + 2;
-        int[] code = new int[pool + 6 * asks.length];
-        for (int a = 0; a < asks.length; a++) {
-            for (int r = 0; r < 3; r++) {
-                int k = 4 * a + r;
-                int place = pool + 6 * a + 2 * r;
-                code[k] = Asm.literal(r, (12 + 2 * place - (12 + 2 * k + 4 & -4)) / 4);
-                code[place] = asks[a][1 + r] & 65535;
-                code[place + 1] = asks[a][1 + r] >>> 16;
-            }
-            code[4 * a + 3] = Asm.call(asks[a][0]);
-        }
-        code[4 * asks.length] = Asm.rest();
-        return code;
+        return Calls.code(asks);
     }
 
-    /** 32 words from 4096 on, SP at 4160, the first frame at 4128. */
     private static Board board(String name, int[]... asks) {
-        return new Board(name, Asm.process(1, 16, 0, calls(asks)));
+        return Calls.board(name, asks);
     }
 
-    /** One call that is made as the first one, and its answer. */
     private static Board first(String name, int[] ask, int answer) {
-        return board(name, ask).run(4).register(0, 0, answer).sp(0, 4128).state(0, 0);
+        return Calls.first(name, ask, answer);
     }
 
     private static void unknownCalls() {

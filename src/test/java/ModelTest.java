@@ -1,30 +1,46 @@
 import java.util.ArrayList;
+import java.util.Collections;
+import java.util.Comparator;
 import java.util.List;
 import java.util.Random;
 import java.util.TreeMap;
+import java.util.function.IntSupplier;
 
 /**
  * Runs of calls that a fixed seed chooses, on GrantKernel and on PlainModel side by side: every
- * answer must be the same. The closing part makes sure that the runs reached what they are for.
+ * answer must be the same. No object gets more than its 512 calls, so a round looks first at what
+ * should have changed. The closing part makes sure that the runs reached what they are for.
  */
 public final class ModelTest {
     private static final int[] ODD_VALUES = {0, 1, -1, 2, 31, 32, 33, 255, 256, 1000, 1001, 65535,
         0x7FFFFFFF, 0x80000000, 0x80000001, 0x55555555, 0xAAAAAAAA, 4096, 4097, 4098, 4608, 4604, 512, 508};
 
+    /** What can be looked at: the same question to both sides. */
+    private record View(String name, IntSupplier board, IntSupplier model) {
+    }
+
+    private static final int ACTIONS_PER_ROUND = 3;
+    private static final int LOOKS_PER_ROUND = 20;
+
     private final Random random;
     private final GrantKernel board = new GrantKernel();
     private final PlainModel model = new PlainModel();
-    private final List<String> calls = new ArrayList<>();
+    private final List<View> views = new ArrayList<>();
+    private final List<String> actions = new ArrayList<>();
     private final TreeMap<String, Integer> reached;
+    private int[] seen;
+    private int callsLeft = Board.MOST_CALLS;
 
     private ModelTest(long seed, TreeMap<String, Integer> reached) {
         random = new Random(seed);
         this.reached = reached;
+        collectViews();
+        seen = modelAnswers();
     }
 
     public static void main(String[] args) {
         TreeMap<String, Integer> reached = new TreeMap<>();
-        int boards = args.length > 0 ? Integer.parseInt(args[0]) : 1500;
+        int boards = args.length > 0 ? Integer.parseInt(args[0]) : 4000;
         long first = args.length > 1 ? Long.parseLong(args[1]) : 0;
         for (long seed = first; seed < first + boards; seed++) {
             new ModelTest(seed, reached).play();
@@ -41,6 +57,48 @@ public final class ModelTest {
         Checks.close("ModelTest");
     }
 
+    private void collectViews() {
+        view("now()", board::now, () -> model.now);
+        view("turn()", board::turn, () -> model.turn);
+        view("outputs()", board::outputs, () -> model.outputs.size());
+        for (int k = -1; k < 17; k++) {
+            int each = k;
+            view("output(" + k + ")", () -> board.output(each), () -> model.output(each));
+        }
+        for (int k = -1; k < 129; k++) {
+            int each = k;
+            view("word(" + k + ")", () -> board.word(each), () -> model.word(each));
+        }
+        for (int p = -1; p < 5; p++) {
+            collectViewsOf(p);
+        }
+    }
+
+    private void collectViewsOf(int p) {
+        for (int k = -1; k < 13; k++) {
+            int each = k;
+            view("register(" + p + ", " + k + ")", () -> board.register(p, each), () -> model.register(p, each));
+        }
+        for (int d = -1; d < 4; d++) {
+            int each = d;
+            view("grant(" + p + ", " + d + ")", () -> board.grant(p, each), () -> model.grant(p, each));
+        }
+        view("state(" + p + ")", () -> board.state(p), () -> model.state(p));
+        view("block(" + p + ")", () -> board.block(p), () -> model.block(p));
+        view("open(" + p + ")", () -> board.open(p), () -> model.open(p));
+        view("queued(" + p + ")", () -> board.queued(p), () -> model.queued(p));
+        view("fault(" + p + ")", () -> board.fault(p), () -> model.fault(p));
+        view("faults(" + p + ")", () -> board.faults(p), () -> model.faults(p));
+    }
+
+    private void view(String name, IntSupplier onBoard, IntSupplier onModel) {
+        views.add(new View(name, onBoard, onModel));
+    }
+
+    private int[] modelAnswers() {
+        return views.stream().mapToInt(v -> v.model().getAsInt()).toArray();
+    }
+
     private void reach(String name) {
         reached.merge(name, 1, Integer::sum);
     }
@@ -53,10 +111,16 @@ public final class ModelTest {
         return values[pick(values.length)];
     }
 
+    /** An action on both sides, and its answer. */
     private void same(String call, long got, long want) {
-        calls.add(call + " = " + got);
+        callsLeft--;
+        actions.add(call + " = " + got);
+        check(call, got, want);
+    }
+
+    private void check(String call, long got, long want) {
         if (got != want) {
-            Checks.due("model: " + call + " after " + calls, got, want);
+            Checks.due("model: " + call + " after " + actions, got, want);
         }
     }
 
@@ -64,18 +128,39 @@ public final class ModelTest {
         burnAll(flash());
         same("boot()", board.boot(), model.boot());
         reach("processes " + model.procs.size());
-        for (int round = 0; round < 25; round++) {
-            for (int k = 0; k < 3; k++) {
+        while (callsLeft > ACTIONS_PER_ROUND + LOOKS_PER_ROUND) {
+            for (int k = 0; k < ACTIONS_PER_ROUND; k++) {
                 oneCall();
             }
-            compare();
+            look(LOOKS_PER_ROUND);
+            note();
         }
+        look(callsLeft);
     }
 
     private void burnAll(int[] image) {
         for (int k = 0; k < image.length; k++) {
-            same("burn(" + k + ", " + image[k] + ")", board.burn(k, image[k]), model.burn(k, image[k]));
+            if (image[k] != 0) {
+                same("burn(" + k + ", " + image[k] + ")", board.burn(k, image[k]), model.burn(k, image[k]));
+            }
         }
+    }
+
+    /** Asks at most so many questions: first of all those whose answer should be another one by now. */
+    private void look(int most) {
+        int[] due = modelAnswers();
+        List<Integer> order = new ArrayList<>();
+        for (int k = 0; k < due.length; k++) {
+            order.add(k);
+        }
+        Collections.shuffle(order, random);
+        int[] before = seen;
+        order.sort(Comparator.comparing(k -> due[k] == before[k]));
+        for (int k : order.subList(0, Math.min(most, order.size()))) {
+            callsLeft--;
+            check(views.get(k).name(), views.get(k).board().getAsInt(), due[k]);
+        }
+        seen = due;
     }
 
     private void oneCall() {
@@ -106,37 +191,6 @@ public final class ModelTest {
         }
     }
 
-    private void compare() {
-        same("now()", board.now(), model.now);
-        same("turn()", board.turn(), model.turn);
-        same("outputs()", board.outputs(), model.outputs.size());
-        for (int k = -1; k < 17; k++) {
-            same("output(" + k + ")", board.output(k), model.output(k));
-        }
-        for (int k = -1; k < 129; k++) {
-            same("word(" + k + ")", board.word(k), model.word(k));
-        }
-        for (int p = -1; p < 5; p++) {
-            compare(p);
-        }
-        note();
-    }
-
-    private void compare(int p) {
-        for (int k = -1; k < 13; k++) {
-            same("register(" + p + ", " + k + ")", board.register(p, k), model.register(p, k));
-        }
-        for (int d = -1; d < 4; d++) {
-            same("grant(" + p + ", " + d + ")", board.grant(p, d), model.grant(p, d));
-        }
-        same("state(" + p + ")", board.state(p), model.state(p));
-        same("block(" + p + ")", board.block(p), model.block(p));
-        same("open(" + p + ")", board.open(p), model.open(p));
-        same("queued(" + p + ")", board.queued(p), model.queued(p));
-        same("fault(" + p + ")", board.fault(p), model.fault(p));
-        same("faults(" + p + ")", board.faults(p), model.faults(p));
-    }
-
     private void note() {
         boolean stopped = !model.procs.isEmpty();
         for (PlainModel.Proc x : model.procs) {
@@ -163,8 +217,6 @@ public final class ModelTest {
             reach("outputs");
         }
         reach("inputs " + model.inputs.size());
-        calls.removeIf(c -> !c.startsWith("burn") && !c.startsWith("boot") && !c.startsWith("run")
-            && !c.startsWith("type") && !c.startsWith("sample") && !c.startsWith("re") && !c.startsWith("stop"));
     }
 
     private int[] flash() {
