@@ -10,6 +10,7 @@ public final class LoadingEdgeTest {
     private static final int[] GOOD = Asm.process(0, 8, 0, LOOP);
 
     public static void main(String[] args) {
+        aNewObjectIsAsBooted();
         theFlashHas256Halfwords();
         halfwordsAre16Bits();
         theRamHas128Words();
@@ -29,9 +30,12 @@ public final class LoadingEdgeTest {
         aBlockBeginsAtAMultiple();
         loadingGoesOnBehindBoth();
         loadingEndsForGood();
+        thirtyTwoHeaders();
         codeAndEntry();
         howItStarts();
         bootAnswersHowMany();
+        bootClearsTheWholeRam();
+        burningChangesTheCodeAlone();
         Checks.close("LoadingEdgeTest");
     }
 
@@ -39,6 +43,35 @@ public final class LoadingEdgeTest {
         int[] other = image.clone();
         other[k] = h;
         return other;
+    }
+
+    /** "All flash and RAM 0, no processes (as if booted)": no boot has been called here. */
+    private static void aNewObjectIsAsBooted() {
+        GrantKernel booted = new GrantKernel();
+        booted.boot();
+        new Look(new GrantKernel()).sameAs(new Look(booted), "new");
+        GrantKernel x = new GrantKernel();
+        for (int k = 0; k < FLASH; k++) {
+            Checks.due("new: burn(" + k + ", 0)", x.burn(k, 0), 0);
+        }
+        Checks.due("new: turn()", x.turn(), -1);
+        Checks.due("new: now()", x.now(), 0);
+        Checks.due("new: state(0)", x.state(0), -1);
+        Checks.due("new: sample(1)", x.sample(1), 0);
+        Checks.due("new: run(3)", x.run(3), 0);
+        Checks.due("new: now() behind it", x.now(), 3);
+        Checks.due("new: turn() behind it", x.turn(), -1);
+        for (int k = 0; k <= 8; k++) {
+            Checks.due("new: type(" + k + ")", x.type(k), k < 8);
+        }
+        // What is burnt is no process before it is booted.
+        for (int k = 0; k < GOOD.length; k++) {
+            x.burn(k, GOOD[k]);
+        }
+        Checks.due("burnt: state(0)", x.state(0), -1);
+        Checks.due("burnt: run(3)", x.run(3), 0);
+        Checks.due("burnt: boot()", x.boot(), 1);
+        Checks.due("burnt: now()", x.now(), 0);
     }
 
     /** "The FLASH is 256 halfwords": k of burn, and nothing is written where k is refused. */
@@ -312,6 +345,19 @@ public final class LoadingEdgeTest {
         new Board("mended", with(GOOD, 1, 7), GOOD).boot(0).burn(1, 8, 7).boot(2).block(1, 4160);
     }
 
+    /** As many headers as the flash can hold, the last one alone being a process, or the last four. */
+    private static void thirtyTwoHeaders() {
+        for (int good = 1; good <= 5; good++) {
+            int[] image = new int[FLASH];
+            for (int k = 0; k < 32; k++) {
+                int[] each = k >= 32 - good ? GOOD : with(GOOD, 3, 7);
+                System.arraycopy(each, 0, image, 8 * k, 8);
+            }
+            Board x = new Board("32 headers, " + good + " good", image).boot(Math.min(good, 4));
+            x.pc(0, 2 * (FLASH - 8 * good) + 12).run(2).register(0, 7, 1);
+        }
+    }
+
     /** "The CODE of a process is the halfwords q .. q + TOTAL - 1; its ENTRY is the address 2 * (q + ENTRY)." */
     private static void codeAndEntry() {
         int[] last = with(Asm.process(0, 8, 0, Asm.rest(), Asm.mov(0, 9)), 4, 7);
@@ -329,14 +375,18 @@ public final class LoadingEdgeTest {
     /** "A process STARTS with ...", when the board is booted and when it is restarted. */
     private static void howItStarts() {
         for (int keep = 8; keep <= 16; keep++) {
-            int[] code = {Asm.mov(7, 23), Asm.blx(7), 0, 0, 0, 0, Asm.sub(6, 1), Asm.push(0xFF), Asm.rest()};
-            Board x = new Board("start with KEEP " + keep, Asm.process(0, keep, 0, code));
+            int[] code = {Asm.mov(7, 17), Asm.blx(7), Asm.sub(0, 1), Asm.sub(1, 2), Asm.sub(2, 3), Asm.sub(3, 4),
+                Asm.sub(4, 5), Asm.sub(5, 6), Asm.sub(6, 7), Asm.push(0xFF), Asm.rest()};
+            Board x = new Board("start with KEEP " + keep, Asm.process(0, keep, 1, code));
             started(x, keep);
-            x.run(2).lr(0, 17).pc(0, 22).restart(0, true);
+            x.run(9).registers(0, -1, -2, -3, -4, -5, -6, -7, 17, 4096 + 4 * keep, 17, 30, 8).restart(0, true);
             started(x, keep);
-            x.run(6).sp(0, 4096 + 4 * keep - 32).flags(0, 8).restart(0, true);
+            // Nine steps, for below what is pushed there is no room for the frame of the tenth.
+            x.burn(6, Asm.branch(1), Asm.mov(7, 17)).run(9).register(0, 7, 0).sp(0, 4064 + 4 * keep).restart(0, true);
             started(x, keep);
-            x.run(2).boot(1);
+            x.run(9).boot(1);
+            started(x, keep);
+            x.burn(16, 0xFFFF, Asm.rest()).run(8).faults(0, 0, 0).run(1).faults(0, 2, 1);
             started(x, keep);
         }
     }
@@ -358,5 +408,33 @@ public final class LoadingEdgeTest {
             x.burn(8 * count - 4, 6, 0).boot(count).boot(count).state(count - 1, 0).state(count, -1);
         }
         x.burn(0, 0, Asm.MAGIC).boot(0).state(0, -1).burn(0, Asm.MAGIC, 0).boot(4);
+    }
+
+    /** "RAM becomes all 0": also where no process has its block any more. */
+    private static void bootClearsTheWholeRam() {
+        Board x = full();
+        x.run(3).stop(0, true).run(3).word(0, 7).word(127, 8).burn(0, 0, Asm.MAGIC).boot(0).word(0, 0).word(127, 0);
+        x = new Board("middle", GOOD, Asm.process(2, 64, 0, Asm.mov(5, 8), Asm.push(0xFF), Asm.push(0xFF), Asm.rest()));
+        x.stop(0, true).run(3).word(117, 8).word(125, 8).burn(8, 0, Asm.MAGIC).boot(1);
+        for (int k = 0; k < 128; k++) {
+            x.word(k, 0);
+        }
+    }
+
+    /** "Processes go on with what they were loaded with, but their code is the flash as it is." */
+    private static void burningChangesTheCodeAlone() {
+        int[] image = Asm.process(1, 9, 1, Asm.add(7, 1), Asm.ldr(1, 0, 0), Asm.branch(-4), 0xFFFF);
+        int[][] burns = {{0, 0}, {0, 65535}, {1, 8}, {1, 0}, {1, 256}, {2, 0}, {2, 2}, {3, 8}, {3, 32}, {4, 7}, {4, 9}, {5, 0}, {5, 15}};
+        for (int[] each : burns) {
+            Board x = new Board("burn " + each[0] + ", " + each[1], image).run(2);
+            x.burn(each[0], each[1], image[each[0]]).block(0, 4096).open(0, 32).state(0, 0).sp(0, 4096 + 36).pc(0, 16);
+            // The header is code as well: r1 gets its first two halfwords.
+            x.run(3).register(0, 7, 2).register(0, 1, (each[0] == 0 ? each[1] : Asm.MAGIC) | (each[0] == 1 ? each[1] : 10) << 16);
+            x.restart(0, true).sp(0, 4096 + 36).pc(0, 12).open(0, 32).block(0, 4096);
+            // One restart because of faults, no more and no less; the last halfword is still in the code.
+            x.burn(8, Asm.branch(-1), image[8]).run(4).faults(0, 2, 1).state(0, 0).pc(0, 12).run(4).faults(0, 2, 2).state(0, 2);
+        }
+        Board x = new Board("at once", GOOD).run(2).register(0, 7, 1).burn(6, Asm.add(7, 9), Asm.add(7, 1)).run(2);
+        x.register(0, 7, 10).burn(7, 0xFFFF, Asm.branch(-3)).run(2).faults(0, 2, 1).register(0, 7, 19);
     }
 }

@@ -33,6 +33,7 @@ public final class ProtectionEdgeTest {
         aFaultDoesNothingElse();
         pushAndPopLookFirst();
         fourMoreBytes();
+        word4Becomes0();
         aFrameOnTheWayOut();
         faultsAreCounted();
         Checks.close("ProtectionEdgeTest");
@@ -186,6 +187,10 @@ public final class ProtectionEdgeTest {
         x = between("behind it", Asm.branch(4)).run(1).pc(1, 48).run(1).faults(1, 1, 1);
         x = between("to the first halfword", Asm.branch(-8)).run(1).pc(1, 24).run(1).faults(1, 2, 1);
         x = between("before it", Asm.branch(-9)).run(1).pc(1, 22).run(1).faults(1, 1, 1).pc(1, 22);
+        x = new Board("to address 0", Asm.process(0, KEEP, 0, Asm.branch(-8), REST)).burn(0, Asm.mov(6, 66), Asm.MAGIC);
+        x.run(1).pc(0, 0).run(1).pc(0, 2).register(0, 6, 66).faults(0, 0, 0);
+        x = new Board("before address 0", Asm.process(0, KEEP, 0, Asm.branch(-9), REST)).run(1).pc(0, -2);
+        x.run(1).faults(0, 1, 1).pc(0, -2);
         int[] far = {-1, 513, 4097, 4161, Bench.MAX, Bench.MIN + 1, 65537};
         for (int target : far) {
             int[] code = {Asm.literal(0, 0), Asm.branch(1), target & 65535, target >>> 16, Asm.bx(0), 0};
@@ -301,6 +306,14 @@ public final class ProtectionEdgeTest {
             x.sp(0, BLOCK + 4 * frame).words(frame, -1, 0, -1, 30, 0, 0, 18, (8 << 28) + (1 << 24) + (odd ? 512 : 0));
             x.register(0, 2, -1).flags(0, 8).pc(0, 18).run(1).sp(0, BLOCK + 4 * keep).pc(0, 20).register(0, 2, -1);
         }
+    }
+
+    /** "The words F, F + 4, .. F + 28 become r0, r1, r2, r3, 0, LR, PC, ...": 0, whatever was there. */
+    private static void word4Becomes0() {
+        int[] r = {1, 2, 3, 4, 5, 6, 7, 8};
+        int[] code = {Asm.push(0xFF), Asm.spUp(8), Asm.call(4)};
+        Bench.before("word 4", 11, r, code).run(2).words(24, 1, 2, 3, 4, 5, 6, 7, 8).run(1)
+            .words(24, -1, 2, 3, 4, 0, 0, Bench.AT + 6, 0xB1000000);
     }
 
     /** "TAKEN from the frame": what input wrote over the frame's words is what the process goes on with. */

@@ -16,6 +16,7 @@ public final class UpcallEdgeTest {
     public static void main(String[] args) {
         noLessThanNoneArePutOut();
         theFirstWordsOrAll();
+        aLongBuffer();
         word1GrowsByHowMany();
         outputCountsFromTheLatest();
         sixteenOutputsAreKept();
@@ -35,6 +36,7 @@ public final class UpcallEdgeTest {
         yieldDeliversTheOldest();
         theFrameOfAnUpcall();
         upcallsAreGoneWithTheProcess();
+        notesAreGoneWithTheProcess();
         Checks.close("UpcallEdgeTest");
     }
 
@@ -80,6 +82,24 @@ public final class UpcallEdgeTest {
         }
     }
 
+    /** More words than are kept: 20 of them, all put out, the latest 16 to be seen. */
+    private static void aLongBuffer() {
+        int[] store = new int[12];
+        for (int r = 0; r < 8; r++) {
+            store[r] = Asm.mov(r, 60 + r);
+        }
+        store[8] = Asm.spDown(8);
+        store[9] = Asm.push(0xFF);
+        store[10] = Asm.push(0xFF);
+        store[11] = Asm.spUp(24);
+        int[] calls = Calls.code(ask(ALLOW, CONSOLE, BLOCK, 20), ask(COMMAND, CONSOLE, 1, MAX), ask(COMMAND, CONSOLE, 1, 19));
+        Board b = new Board("20 words", Asm.process(1, 28, 0, Asm.join(store, calls))).run(20).outputs(20).words(30, 0, 20);
+        for (int k = 0; k < 17; k++) {
+            b.output(k, k < 16 ? 60 + (15 - k) % 8 : 0);
+        }
+        b.run(4).outputs(39).words(30, 0, 39).output(0, 66).output(6, 60).output(7, 67).output(14, 60).output(15, 0);
+    }
+
     private static void word1GrowsByHowMany() {
         Board b = withWords("grows", ask(ALLOW, CONSOLE, BLOCK, 3), ask(COMMAND, CONSOLE, 1, 2), ask(COMMAND, CONSOLE, 1, 9),
             ask(COMMAND, CONSOLE, 1, 0), ask(ALLOW, CONSOLE, 0, 0), ask(COMMAND, CONSOLE, 1, 9));
@@ -121,6 +141,15 @@ public final class UpcallEdgeTest {
     private static void outputsSinceBoot() {
         Board b = counting("since boot").run(30).outputs(3).restart(0, true).outputs(3).output(0, 3).stop(0, true).outputs(3);
         b.output(2, 1).boot(1).outputs(0).output(0, 0).output(2, 0).run(20).outputs(1).output(0, 1).output(1, 0);
+        // Of what was put out before, nothing comes to light again.
+        b = counting("many before").run(200).outputs(20).output(15, 5).boot(1).run(10);
+        for (int count = 0; count <= 16; count++) {
+            b.outputs(count);
+            for (int k = 0; k < 17; k++) {
+                b.output(k, k < count && k < 16 ? count - k : 0);
+            }
+            b.run(10);
+        }
     }
 
     /** "2: if word 0 is 1, -5 ... else word 0 becomes 1; answer 0" */
@@ -265,20 +294,23 @@ public final class UpcallEdgeTest {
         }
     }
 
-    /** "but if four wait already, nothing" */
+    /** "but if four wait already, nothing": the fifth one is lost, and the four come in their order. */
     private static void fourUpcallsWait() {
-        for (int count = 1; count <= 6; count++) {
-            int[][] asks = new int[count + 2][];
-            asks[0] = ask(SUBSCRIBE, SENSOR, 13, 5);
+        for (int count = 0; count <= 6; count++) {
+            int[] code = Asm.join(new int[] {Asm.branch(0), Asm.bx(14)}, Asm.ask(Asm.SUBSCRIBE, 2, 15, 5));
             for (int k = 1; k <= count; k++) {
-                asks[k] = ask(COMMAND, SENSOR, 1, 0);
+                code = Asm.join(code, Asm.ask(Asm.COMMAND, 2, 1, 0));
             }
-            asks[count + 1] = ask(YIELD, 0, 0, 0);
-            Board b = Calls.board(count + " upcalls", asks).run(4);
+            code = Asm.join(code, new int[] {Asm.YIELD, Asm.YIELD, Asm.YIELD, Asm.YIELD, Asm.YIELD, Asm.rest()});
+            Board b = new Board(count + " upcalls", Asm.process(1, 16, 0, code)).run(5).queued(0, 0);
             for (int k = 1; k <= count; k++) {
                 b.run(4).sample(100 + k, 1).queued(0, Math.min(k, 4)).word(31, k);
             }
-            b.run(4).queued(0, Math.min(count, 4) - 1).registers(0, 101, 1, SENSOR, 5).state(0, 0);
+            int waiting = Math.min(count, 4);
+            for (int k = 1; k <= waiting; k++) {
+                b.run(1).queued(0, waiting - k).registers(0, 100 + k, k, SENSOR, 5).state(0, 0).pc(0, 14).run(1);
+            }
+            b.run(1).queued(0, 0).state(0, 1);
         }
     }
 
@@ -363,6 +395,28 @@ public final class UpcallEdgeTest {
                 b.run(1).faults(0, 2, 1);
             }
             b.queued(0, 0).sample(5, 0).state(0, way % 2 == 0 ? 2 : 0).grant(0, 2, -1).restart(0, true).queued(0, 0);
+        }
+    }
+
+    /** "its subscriptions, buffers, grants and upcalls are gone": it asks anew, but subscribes and allows nothing. */
+    private static void notesAreGoneWithTheProcess() {
+        for (int way = 0; way < 3; way++) {
+            int[] code = Asm.join(new int[] {Asm.mov(0, 1), Asm.addrSp(1, 0), Asm.mov(2, 1), Asm.ALLOW},
+                Asm.ask(Asm.SUBSCRIBE, 0, 13, 7), Asm.ask(Asm.SUBSCRIBE, 1, 13, 8), Asm.ask(Asm.SUBSCRIBE, 2, 13, 9),
+                Asm.ask(Asm.COMMAND, 0, 1, 200), new int[] {0xFFFF}, Asm.ask(Asm.COMMAND, 0, 1, 16), Asm.ask(Asm.COMMAND, 1, 1, 1), Asm.ask(Asm.COMMAND, 1, 2, 0),
+                Asm.ask(Asm.COMMAND, 2, 1, 0), new int[] {Asm.YIELD});
+            Board b = new Board("notes " + way, Asm.process(1, 16, 1, code)).run(20).grant(0, 1, 4216).grant(0, 2, 4200);
+            b.words(26, 0, 0, 1, 220);
+            if (way == 0) {
+                b.restart(0, true);
+            } else if (way == 1) {
+                b.stop(0, true).restart(0, true);
+            } else {
+                b.run(1).faults(0, 2, 1);
+            }
+            b.open(0, 32).words(26, 0, 0, 0, 0, 0, 0).grant(0, 0, -1).grant(0, 1, -1).grant(0, 2, -1);
+            b.burn(6, Asm.branch(19), Asm.mov(0, 1)).run(18).state(0, 1).outputs(0).grant(0, 0, 4216).words(26, 1, 0, 1, 0, 1);
+            b.type(5, true).sample(6, 1).run(5, 0).words(26, 0, 1, 0, 0, 0).words(16, 0, 0).state(0, 1).queued(0, 0);
         }
     }
 }

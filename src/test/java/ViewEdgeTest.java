@@ -62,7 +62,7 @@ public final class ViewEdgeTest {
         x.burn(2 * asking.length, 0, Asm.MAGIC).boot(2).state(1, 0).faults(1, 0, 0).turn(-1);
         isNone(x, 2);
         isNone(x, 3);
-        x.run(14).grant(1, 2, 4216).sample(1, 2).burn(0, 0, Asm.MAGIC).boot(0).turn(-1).run(3, 0).turn(-1).sample(1, 0);
+        x.run(14).grant(1, 2, 4216).words(30, 1, 0).burn(0, 0, Asm.MAGIC).boot(0).turn(-1).run(3, 0).turn(-1).sample(1, 0);
         isNone(x, 0);
         isNone(x, 1);
         x.burn(0, Asm.MAGIC, 0).boot(2).state(0, 0).state(1, 0).sample(1, 0);
