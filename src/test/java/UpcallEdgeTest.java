@@ -219,16 +219,21 @@ public final class UpcallEdgeTest {
         b.run(12).type(8, true).word(0, 0);
     }
 
+    /** Four processes: bit p tells which of the two number p is. */
+    private static int[][] four(int bits, int[] one, int[] zero) {
+        int[][] images = new int[4][];
+        for (int p = 0; p < 4; p++) {
+            images[p] = (bits >> p & 1) == 1 ? one : zero;
+        }
+        return images;
+    }
+
     /** "the process with the least number that has a grant for CONSOLE with word 0 = 1 receives it" */
     private static void theLeastNumberReceives() {
         int[] asking = Asm.process(0, 8, 0, Asm.join(Asm.ask(Asm.COMMAND, 1, 2, 0), new int[] {Asm.rest()}));
         int[] quiet = Asm.process(0, 8, 0, Asm.join(Asm.ask(Asm.COMMAND, 1, 0, 0), new int[] {Asm.rest()}));
         for (int asked = 0; asked < 16; asked++) {
-            int[][] images = new int[4][];
-            for (int p = 0; p < 4; p++) {
-                images[p] = (asked >> p & 1) == 1 ? asking : quiet;
-            }
-            Board b = new Board("asked " + asked, images).run(40);
+            Board b = new Board("asked " + asked, four(asked, asking, quiet)).run(40);
             int left = asked;
             while (left > 0) {
                 left &= left - 1;
@@ -256,11 +261,7 @@ public final class UpcallEdgeTest {
         int[] asking = Asm.process(0, 8, 0, Asm.join(Asm.ask(Asm.COMMAND, 2, 1, 0), new int[] {Asm.rest()}));
         int[] quiet = Asm.process(0, 8, 0, Asm.join(Asm.ask(Asm.COMMAND, 2, 0, 0), new int[] {Asm.rest()}));
         for (int asked = 0; asked < 16; asked++) {
-            int[][] images = new int[4][];
-            for (int p = 0; p < 4; p++) {
-                images[p] = (asked >> p & 1) == 1 ? asking : quiet;
-            }
-            Board b = new Board("sampled " + asked, images).sample(1, 0).run(40).sample(1, Integer.bitCount(asked));
+            Board b = new Board("sampled " + asked, four(asked, asking, quiet)).sample(1, 0).run(40).sample(1, Integer.bitCount(asked));
             for (int p = 0; p < 4; p++) {
                 b.words(16 * p + 14, 0, asked >> p & 1);
             }
